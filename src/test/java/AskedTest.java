@@ -131,6 +131,14 @@ public final class AskedTest {
         Pen.due("0 by less", 2, () -> u.pays(0));
         Pen.work(u, "again 8[week;];");
         Pen.due("old, memory 4", 0, () -> u.pays(0));
+        // told by falling dues: 2 by 2, 4 by 4, 6 by 6
+        PaidByHeart r = Pen.of("poem 10 0;poem 11 0;poem 12 0;man 99 20;debt 0 0 0 6;debt 0 1 0 4;debt 0 2 0 2;");
+        Pen.due("falling dues", 7, () -> r.pays(0));
+        Pen.work(r, "week;");
+        // 2 by 3, and 2 more by 5
+        Pen.due("falling dues, a week later", 3, () -> r.pays(0));
+        PaidByHeart q = Pen.of("poem 10 0;poem 11 0;man 99 20;man 9 20;debt 0 0 0 4;debt 1 0 0 9;debt 0 1 0 2;");
+        Pen.due("not the other man's", 5, () -> q.pays(0));
         PaidByHeart t = Pen.of("poem 5 0;man 9 20;");
         Pen.due("no debts", 0, () -> t.pays(0));
         PaidByHeart s = Pen.of("poem 1 0;man 9 20;" + Pen.times(10, "debt 0 0 0 1;"));
@@ -205,6 +213,14 @@ public final class AskedTest {
         Pen.book(z, "0 0 0;");
         Pen.due("the second parts", 1, () -> z.look(0));
         Pen.due("two of three are left", 2, () -> z.look(1));
+        // one pair alone: whatever he knows, it is left
+        PaidByHeart w = Pen.of("poem 5 0;man 9 20;");
+        Pen.due("one pair", 0, () -> w.look(0));
+        Pen.due("is left", 1, () -> w.look(1));
+        // a lesson of one line parts, too
+        PaidByHeart v = Pen.of("poem 5 9;poem 5 8;poem 5 9;man 9 20;");
+        Pen.due("the one of one line", 1, () -> v.look(0));
+        Pen.due("two are left", 2, () -> v.look(1));
         Pen.illegal("look(2)", () -> z.look(2));
         Pen.illegal("look(-1)", () -> z.look(-1));
     }
@@ -323,6 +339,10 @@ public final class AskedTest {
         Pen.due("the first of two", 1, () -> x.best(0, 0));
         Pen.due("nine", 9, () -> x.best(0, 1));
         Pen.due("of the other poem nobody", -1, () -> x.best(1, 1));
+        Pen.law(x, "1");
+        Pen.work(x, "learn 2 1;");
+        Pen.due("one line is enough", 2, () -> x.best(1, 0));
+        Pen.due("one", 1, () -> x.best(1, 1));
         Pen.illegal("best(0, 2)", () -> x.best(0, 2));
         Pen.noSuch("best(2, 2)", () -> x.best(2, 2));
     }

@@ -138,6 +138,25 @@ public final class StepsTest {
         Pen.work(y, "learn 0 0;learn 0 1;");
         Pen.due("2 of 2", 1, () -> y.debt(0, 5));
         Pen.due("5 of 8", 1, () -> y.debt(1, 5));
+        for (int lines = 1; lines <= 40; lines++) {
+            PaidByHeart z = Pen.of("poem " + lines + " 0;man 99 20;debt 0 0 1 9;debt 0 0 3 9;");
+            Pen.law(z, "1");
+            int needed = 0;
+            for (int i = 0; i < 3 && z.debt(0, 5) == 0; i++) {
+                Pen.work(z, "again " + (i == 0 ? lines / 2 : 1) + "[learn 0 0;];");
+                needed = z.knows(0, 0);
+            }
+            int just = needed;
+            Pen.due("from the middle on, of " + lines, Math.min(lines, lines / 2 + 1), () -> just);
+            Pen.due("a lullaby, too, of " + lines, 1, () -> z.debt(1, 5));
+        }
+        // each man's lessons are his own
+        PaidByHeart w = Pen.of("poem 3 0;man 9 20;man 9 20;man 9 20;debt 1 0 2 9;debt 2 0 2 9;fade 0;");
+        Pen.work(w, "learn 0 0;learn 1 0;learn 2 0;week;");
+        Pen.due("no lesson of the second", 0, () -> w.debt(0, 5) + w.man(1, 5) + w.man(2, 5));
+        Pen.work(w, "forget 1 0;learn 1 0;");
+        Pen.due("one of the second", 1, () -> w.debt(0, 5));
+        Pen.due("none of the third", 0, () -> w.debt(1, 5));
     }
 
     private static void wells(PaidByHeart x, int... wells) {

@@ -140,6 +140,14 @@ public final class SumsTest {
         Pen.due("lines then", 12, () -> y.season(77, 0, 3, 1));
         Pen.due("nothing stays changed", 4, () -> y.told(8));
         Pen.due("nor the week", 0, () -> y.told(3));
+        // lessons and slips ahead of it are none of its own, of the second man, too
+        PaidByHeart z = Pen.of("poem 40 8;man 99 20;man 99 20;man 99 20;debt 1 0 0 9;debt 2 0 0 9;fade 0;");
+        Pen.work(z, "learn 0 0;learn 1 0;learn 1 0;learn 2 0;say 0;say 1;say 1;");
+        for (int i = 0; i < 20; i++) {
+            int from = i;
+            Pen.due("lessons from " + from, 7, () -> z.season(from, 0, 7, 3));
+            Pen.due("slips from " + from, 7, () -> z.season(from, 16, 7, 2));
+        }
         seasonWithoutDebts();
     }
 
@@ -190,6 +198,11 @@ public final class SumsTest {
                 Pen.illegal("span, " + i + " of " + wrong, () -> x.span(1, a[0], a[1], a[2], a[3], a[4]));
             }
         }
+        Pen.due("the least of all", 0, () -> x.span(1, 1, 0, 1, 2, 0));
+        Pen.due("the most of all", x.span(1, 10, 16, 48, 1, 1), () -> x.span(1, 10, 16, 48, 1, 1));
+        PaidByHeart z = Pen.of("poem 20 9;man 20 20;debt 0 0 0 9;");
+        Pen.due("no lines, most", 0, () -> z.span(1, 3, 0, 5, 1, 0));
+        Pen.due("no lines, fewest", 0, () -> z.span(1, 3, 0, 5, 0, 0));
         PaidByHeart y = Pen.of("poem 20 3;man 20 20;");
         Pen.illegal("no debts", () -> y.span(1, 1, 0, 1, 1, 0));
     }

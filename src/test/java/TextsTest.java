@@ -14,6 +14,8 @@ public final class TextsTest {
         workIsFull();
         book();
         fault();
+        words();
+        bytesBehindTheText();
         Pen.end();
     }
 
@@ -367,6 +369,88 @@ public final class TextsTest {
         Pen.due("nor is another call", 2, () -> x.fault());
         x.book(6);
         Pen.due("the latest text counts", -1, () -> x.fault());
+    }
+
+    /** A word is all letters that stand there, and each of them counts. */
+    private static void words() {
+        for (String word : new String[] {"poem", "man", "debt", "fade"}) {
+            spoilt("valley", word, " 0 0 0 0;");
+        }
+        for (String word : new String[] {"learn", "forget", "say", "duet", "week", "again"}) {
+            spoilt("work", word, " 0 0;");
+        }
+        for (String word : new String[] {"lines", "hard", "known", "room", "age", "lessons", "week", "man", "least", "most"}) {
+            spoilt("law", word, "");
+        }
+    }
+
+    private static void spoilt(String sort, String word, String rest) {
+        refuses(sort, word + "z" + rest, 1, 0);
+        refuses(sort, word + "a" + rest, 1, 0);
+        refuses(sort, "a" + word + rest, 1, 0);
+        refuses(sort, "z" + word.substring(1) + rest, 1, 0);
+        refuses(sort, word.substring(0, word.length() - 1) + "z" + rest, 1, 0);
+        refuses(sort, word.substring(0, word.length() - 1) + rest, 1, 0);
+        refuses(sort, word.toUpperCase() + rest, 1, 0);
+    }
+
+    /** The first n bytes are the text, whatever lies behind them. */
+    private static void bytesBehindTheText() {
+        String valley = "poem 12 3;man 10 20;debt 0 0 1 10;fade 1;";
+        String law = "least[12,lines]+(hard*2)/week";
+        String work = "again 10[week;learn 0 0;];say 0;duet 0 1;";
+        String book = "0 0 10; 1 1 12;";
+        for (int i = 0; i <= valley.length(); i++) {
+            int n = i;
+            PaidByHeart whole = Pen.of(SMALL);
+            PaidByHeart part = Pen.of(SMALL);
+            PaidByHeart other = Pen.of(SMALL);
+            Pen.feed(whole, valley);
+            // what lies behind would go on well, or is of another text
+            Pen.feed(other, valley.substring(0, n) + "0;" + valley);
+            int want = Pen.valley(part, valley.substring(0, n));
+            Pen.due("valley to " + n, want, () -> whole.valley(n));
+            Pen.due("valley to " + n + ", other bytes", want, () -> other.valley(n));
+            Pen.due("place, to " + n, part.fault(), () -> whole.fault());
+            Pen.due("place, to " + n + ", other bytes", part.fault(), () -> other.fault());
+            Pen.due("fade, to " + n, part.told(11), () -> whole.told(11));
+        }
+        PaidByHeart x = Pen.of(SMALL);
+        for (int i = 0; i <= law.length(); i++) {
+            int n = i;
+            int want = Pen.law(x, law.substring(0, n));
+            int place = x.fault();
+            Pen.feed(x, law + "1)]");
+            Pen.due("law to " + n, want, () -> x.law(n));
+            Pen.due("place, law to " + n, place, () -> x.fault());
+        }
+        for (int i = 0; i <= work.length(); i++) {
+            int n = i;
+            int want = Pen.work(x, work.substring(0, n));
+            int place = x.fault();
+            x.undo();
+            Pen.feed(x, work + ";];");
+            Pen.due("work to " + n, want, () -> x.work(n));
+            Pen.due("place, work to " + n, place, () -> x.fault());
+            x.undo();
+        }
+        for (int i = 0; i <= book.length(); i++) {
+            int n = i;
+            int want = Pen.book(x, book.substring(0, n));
+            int place = x.fault();
+            Pen.feed(x, book + ";0");
+            Pen.due("book to " + n, want, () -> x.book(n));
+            Pen.due("place, book to " + n, place, () -> x.fault());
+        }
+        Pen.feed(x, "12 34 5");
+        Pen.due("law of 1", 1, () -> x.law(1));
+        Pen.due("is 1", 1, () -> x.would(1, 0, 0, 0, 10, 0, 0, 0));
+        Pen.feed(x, "fade 4;7;");
+        x.valley(6);
+        Pen.due("its ; lies behind", 6, () -> x.fault());
+        Pen.feed(x, "poem 1 0;");
+        x.valley(3);
+        Pen.due("its last letter lies behind", 0, () -> x.fault());
     }
 
     /** A text refused on an object with the small valley: by which fault, and where. */
