@@ -1360,11 +1360,15 @@ public final class PaidByHeart {
             boolean isTenth = cells[WEEK] % 10 == 0;
             for (int man = firstMan; man < behindMan; man++) {
                 boolean becomesOld = isTenth && ageOf(man) == OLD_AGE;
+                int row = place(man, 0);
+                int fresh = cells[FRESH + man];
                 for (int poem = 0; poem < valley.poems; poem++) {
-                    if (becomesOld) {
-                        cells[place(man, poem)] = 0;
-                    } else if ((cells[FRESH + man] >> poem & 1) == 0) {
-                        lose(man, poem, valley.fadedLines(poem));
+                    if (cells[row + poem] > 0) {
+                        if (becomesOld) {
+                            cells[row + poem] = 0;
+                        } else if ((fresh >> poem & 1) == 0) {
+                            lose(man, poem, valley.fadedLines(poem));
+                        }
                     }
                 }
                 cells[FRESH + man] = 0;

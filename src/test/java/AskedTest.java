@@ -21,6 +21,7 @@ public final class AskedTest {
         best();
         chorus();
         wrongNumbers();
+        fullValley();
         Pen.end();
     }
 
@@ -377,5 +378,43 @@ public final class AskedTest {
             Pen.noSuch("closest " + n, () -> x.closest(n, 0));
             Pen.noSuch("best " + n, () -> x.best(n, 0));
         }
+    }
+
+    /** As many poems, men and debts as there may be: each is reached, and none beyond. */
+    private static void fullValley() {
+        PaidByHeart x = Pen.of(Pen.times(8, "poem 2 9;") + Pen.times(6, "man 99 50;") + Pen.times(10, "debt 5 7 2 40;"));
+        Pen.law(x, "2");
+        for (int poem = 0; poem < 8; poem++) Pen.work(x, "learn 5 " + poem + ";");
+        Pen.due("fits", 48, () -> x.fits(0));
+        Pen.due("lines", 16, () -> x.told(8));
+        Pen.due("fullest", 5, () -> x.fullest(0));
+        Pen.due("fullest, lines", 16, () -> x.fullest(1));
+        Pen.due("who knows the last poem", 32, () -> x.poem(7, 2));
+        Pen.due("debts by the last poem", 1023, () -> x.poem(7, 3));
+        Pen.due("debts of the last man", 1023, () -> x.man(5, 7));
+        Pen.due("all fresh", 255, () -> x.man(5, 8));
+        Pen.due("best", 5, () -> x.best(7, 0));
+        Pen.due("chorus", 2, () -> x.chorus(7, 63));
+        Pen.due("partners", 31, () -> x.partners(9));
+        Pen.due("free", 31, () -> x.free());
+        Pen.due("pays", 1023, () -> x.pays(5));
+        Pen.due("pays nothing", 0, () -> x.pays(0));
+        Pen.due("hardest", 0, () -> x.hardest(5));
+        Pen.due("look", 0, () -> x.look(0));
+        Pen.due("look, left", 47, () -> x.look(1));
+        Pen.due("candles", 9, () -> x.candles(5, 63, 9));
+        Pen.due("late", 1023, () -> x.ahead(41, 1));
+        Pen.due("none is late", 0, () -> x.ahead(40, 1));
+        Pen.due("all fade", 0, () -> x.ahead(2, 0));
+        Pen.due("nobody is old", 0, () -> x.ahead(99, 2));
+        Pen.due("lessons", 1, () -> x.lessons(4, 7));
+        Pen.due("closest", 0, () -> x.closest(5, 0));
+        Pen.due("paid", 1 << 9, () -> Pen.work(x, "say 9;") * x.told(4));
+        Pen.due("next", 0, () -> x.next(0));
+        Pen.due("what is paid stays so in a season", 512, () -> x.season(3, 16, 48, 0) & 512);
+        Pen.due("a span", 10, () -> x.span(3, 10, 16, 48, 2, 9));
+        Pen.noSuch("no seventh man", () -> x.knows(6, 0));
+        Pen.noSuch("no ninth poem", () -> x.knows(0, 8));
+        Pen.noSuch("no eleventh debt", () -> x.debt(10, 0));
     }
 }

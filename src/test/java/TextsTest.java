@@ -111,6 +111,21 @@ public final class TextsTest {
         Pen.due("nobody knows a line", 0, () -> x.told(8));
         Pen.due("no lesson", 0, () -> x.man(0, 4));
         Pen.due("status stays", 1, () -> x.status(1));
+        Pen.work(x, "learn 0 0;learn 1 1;say 0;");
+        Pen.valley(x, SMALL);
+        for (int man = 0; man < 2; man++) {
+            for (int what = 3; what < 9; what++) {
+                int who = man;
+                int asked = what;
+                Pen.due("all is new of " + man, what == 7 ? 1 - man : 0, () -> x.man(who, asked));
+            }
+        }
+        Pen.due("none is paid", 0, () -> x.told(4));
+        // what an earlier valley told is not there any more
+        Pen.valley(x, "man 9 20;");
+        Pen.due("no poems, no lessons", 0, () -> x.season(1, 16, 9, 3));
+        Pen.valley(x, "poem 5 0;");
+        Pen.due("no men, no lessons", 0, () -> x.season(1, 16, 9, 3));
     }
 
     private static void valleyFaults() {
@@ -267,6 +282,8 @@ public final class TextsTest {
         Pen.due("agains count", 196, () -> Pen.work(z, "again 40[" + Pen.times(4, "week;")
             + "];again 0[week;];again 36[week;];again 3[];week;"));
         Pen.due("what comes behind is not refused", 0, () -> z.told(10));
+        PaidByHeart v = Pen.of(SMALL);
+        Pen.due("six open at a time", 64, () -> Pen.work(v, Pen.times(6, "again 2[") + "week;" + Pen.times(6, "];")));
         // six open at a time, 40 to the sixth rounds: ends, for all that
         PaidByHeart w = Pen.of(SMALL);
         Pen.due("empty rounds", 0, () -> Pen.work(w, "again 40[again 40[again 40[again 40[again 40[again 40[];];];];];];"));
