@@ -1474,23 +1474,30 @@ public final class PaidByHeart {
         }
 
         /** Does the steps of one block; how far that went stands in begun, done and refused. */
-        void doSteps(State state, int from, int behind, int open) {
+        private void doSteps(State state, int from, int behind, int open) {
             int resume = from;
             for (int at = from; at < behind; at++) {
-                if (at < resume || begun >= MOST_BEGUN || open > MOST_OPEN) {
+                if (at < resume || begun >= MOST_BEGUN) {
                     continue;
                 }
                 begun++;
                 if (kinds[at] == AGAIN) {
                     resume = seconds[at];
-                    for (int round = 0; round < firsts[at] && begun < MOST_BEGUN; round++) {
-                        doSteps(state, at + 1, resume, open + 1);
-                    }
+                    doAgain(state, at, open);
                 } else if (doStep(state, at)) {
                     done++;
                 } else {
                     refused++;
                 }
+            }
+        }
+
+        private void doAgain(State state, int at, int open) {
+            if (open >= MOST_OPEN) {
+                return;
+            }
+            for (int round = 0; round < firsts[at] && begun < MOST_BEGUN; round++) {
+                doSteps(state, at + 1, seconds[at], open + 1);
             }
         }
 
