@@ -25,7 +25,7 @@ public final class ModelTest {
     }
 
     public static void main(String[] args) {
-        int runs = args.length > 0 ? Integer.parseInt(args[0]) : 1500;
+        int runs = args.length > 0 ? Integer.parseInt(args[0]) : 1800;
         long from = args.length > 1 ? Long.parseLong(args[1]) : 1;
         for (Method m : PaidByHeart.class.getDeclaredMethods()) FACE.put(m.getName(), m);
         for (long seed = from; seed < from + runs && wrong < 5; seed++) {
@@ -37,7 +37,7 @@ public final class ModelTest {
 
     private void run() {
         text("valley", whim.valley());
-        for (int i = 0; i < 200 && !failed; i++) {
+        for (int i = 0; i < 200 && !failed && log.size() < 512; i++) {
             int way = whim.below(40);
             if (way == 0 && whim.below(8) == 0) text("valley", whim.valley());
             else if (way < 2) text("law", whim.law());
@@ -120,7 +120,8 @@ public final class ModelTest {
     }
 
     private void both(String name, int... args) {
-        if (failed) return;
+        // behind its 512th call an object may answer what it likes
+        if (failed || log.size() >= 512) return;
         calls++;
         long want = Pen.of(() -> model.call(name, args));
         long got = Pen.of(() -> real(name, args));

@@ -170,8 +170,9 @@ public final class SumsTest {
     }
 
     private static void span() {
-        PaidByHeart x = Pen.of("poem 20 3;poem 9 6;man 20 20;man 8 59;debt 0 0 0 3;debt 1 1 1 5;");
+        String valley = "poem 20 3;poem 9 6;man 20 20;man 8 59;debt 0 0 0 3;debt 1 1 1 5;";
         for (int seed : new int[] {0, 1, -1, 123456789, Integer.MAX_VALUE - 3, Integer.MIN_VALUE}) {
+            PaidByHeart x = Pen.of(valley);
             for (int many = 1; many <= 10; many += 3) {
                 int fewest = Integer.MAX_VALUE;
                 int most = Integer.MIN_VALUE;
@@ -190,6 +191,7 @@ public final class SumsTest {
                 Pen.due("paid 1 of " + many + " from " + seed, paid[1], () -> x.span(seed, count, 9, 13, 2, 1));
             }
         }
+        PaidByHeart x = Pen.of(valley);
         int[][] limits = {{1, 10}, {0, 16}, {1, 48}, {0, 2}, {0, 1}};
         for (int i = 0; i < 5; i++) {
             for (int wrong : new int[] {limits[i][0] - 1, limits[i][1] + 1, Integer.MIN_VALUE, Integer.MAX_VALUE}) {

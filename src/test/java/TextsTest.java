@@ -432,8 +432,8 @@ public final class TextsTest {
             Pen.due("place, to " + n + ", other bytes", part.fault(), () -> other.fault());
             Pen.due("fade, to " + n, part.told(11), () -> whole.told(11));
         }
-        PaidByHeart x = Pen.of(SMALL);
         for (int i = 0; i <= law.length(); i++) {
+            PaidByHeart x = Pen.of(SMALL);
             int n = i;
             int want = Pen.law(x, law.substring(0, n));
             int place = x.fault();
@@ -442,6 +442,7 @@ public final class TextsTest {
             Pen.due("place, law to " + n, place, () -> x.fault());
         }
         for (int i = 0; i <= work.length(); i++) {
+            PaidByHeart x = Pen.of(SMALL);
             int n = i;
             int want = Pen.work(x, work.substring(0, n));
             int place = x.fault();
@@ -452,6 +453,7 @@ public final class TextsTest {
             x.undo();
         }
         for (int i = 0; i <= book.length(); i++) {
+            PaidByHeart x = Pen.of(SMALL);
             int n = i;
             int want = Pen.book(x, book.substring(0, n));
             int place = x.fault();
@@ -459,6 +461,7 @@ public final class TextsTest {
             Pen.due("book to " + n, want, () -> x.book(n));
             Pen.due("place, book to " + n, place, () -> x.fault());
         }
+        PaidByHeart x = Pen.of(SMALL);
         Pen.feed(x, "12 34 5");
         Pen.due("law of 1", 1, () -> x.law(1));
         Pen.due("is 1", 1, () -> x.would(1, 0, 0, 0, 10, 0, 0, 0));
